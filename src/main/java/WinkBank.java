@@ -1449,6 +1449,7 @@ public final class WinkBank {
 
         /** FITS: the pairs, in order, are the first ones in fitting. */
         void seekPairs(int w) {
+            board.showLaw(w);
             pairs = 0;
             for (int pair = 0; pair < PAIRS; pair++) {
                 if (isFitting(w, pair)) {
@@ -1468,11 +1469,11 @@ public final class WinkBank {
             return true;
         }
 
+        /** All else being as seekPairs() showed it to the LAW. */
         private int flightAsIf(int w, int press, int pair) {
             if (!board.isOnFelt(w)) {
                 return 0;
             }
-            board.showLaw(w);
             law.seen[Law.NAP] = pair / 10;
             law.seen[Law.DAMP] = pair % 10;
             return law.flightBy(press);
