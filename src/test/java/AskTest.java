@@ -275,6 +275,22 @@ public final class AskTest {
         // wink 1 comes to 1, 2, 3, 4, 0, 1, .. and wink 0 to 2 and more: it is met at 2, 3, 4 alone
         Check.due("not to be met", f.duel(0, 1, 1), 41);
         Check.due("six presses by nine", f.duel(0, 1, 0), 54);
+        WinkBank h = Check.in("house 0;felt 30;wink 0 1 1;wink 0 1 0;cup 1 1;");
+        Check.law(h, "press");
+        // wink 1 has 1 by the cup, and no more by meeting wink 0
+        Check.due("a clash is worth 1", h.duel(0, 1, 0), 9);
+        Check.due("a clash is worth 1, first", h.duel(0, 1, 1), 11);
+        Check.due("a clash is worth 1, turned", h.duel(1, 0, 0), 9);
+        Check.due("together", h.duel(0, 1, 2), 1);
+        WinkBank i = Check.in("house 0;felt 30;wink 0 1 0;wink 0 1 1;cup 9 5;");
+        Check.law(i, "press");
+        Check.due("a rest in the cup", i.duel(0, 1, 1), 98);
+        Check.due("together", i.duel(0, 1, 2), 10);
+        Check.law(i, "press/5+2-cell");
+        // both come to 2 or 3: one flees, one follows
+        Check.due("no rest", i.duel(0, 1, 0), 0);
+        Check.due("no first", i.duel(0, 1, 1), -1);
+        Check.due("nothing together", i.duel(0, 1, 2), 0);
         Check.illegal("one wink", b, () -> b.duel(1, 1, 0));
         Check.illegal("what", b, () -> b.duel(0, 1, 3));
         Check.noSuch("no wink", b, () -> b.duel(0, 2, 3));

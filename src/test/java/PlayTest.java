@@ -79,6 +79,8 @@ public final class PlayTest {
 
     static void begunSteps() {
         WinkBank b = new WinkBank();
+        Check.due("as many steps as a text holds", Check.play(b, "day;".repeat(37)), 37);
+        b.undo();
         Check.due("199 days", Check.play(b, "again 30[day;day;day;day;day;day;day;day;];damp 5;"), 199);
         Check.due("199", b.told(3), 199);
         Check.due("left out, not refused", b.told(9), 0);
