@@ -1585,7 +1585,7 @@ public final class WinkBank {
             }
             queued = 0;
             reach(board.cells[w], 0, NONE);
-            for (int i = 0; i < queued && most == NONE; i++) {
+            for (int i = 0; i < queue.length && i < queued && most == NONE; i++) {
                 seekWayFrom(w, queue[i]);
             }
         }
