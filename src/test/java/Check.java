@@ -4,6 +4,8 @@ import java.nio.charset.StandardCharsets;
 final class Check {
     static int wrong;
     static int checked;
+    /** What the checks that follow are about, told ahead of each that is wrong. */
+    static String about = "";
 
     private Check() { }
 
@@ -15,7 +17,7 @@ final class Check {
         checked++;
         if (got != want) {
             wrong++;
-            System.out.println(what + " answered " + got + ", due is " + want);
+            System.out.println(about + what + " answered " + got + ", due is " + want);
         }
     }
 
@@ -40,7 +42,7 @@ final class Check {
         checked++;
         if (!got.equals(name)) {
             wrong++;
-            System.out.println(what + " threw " + got + ", due is " + name);
+            System.out.println(about + what + " threw " + got + ", due is " + name);
         }
         due(what + " counted", b.status(status), mine + 1);
         due(what + " not counted elsewhere", b.status(1 - status), others);
