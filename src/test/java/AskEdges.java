@@ -191,6 +191,12 @@ final class AskEdges {
         Check.due("over it is not IN it", over.way(0, 0), -1);
         WinkBank next = in("house 0;felt 30;wink 0 1 0;cup 1 5;cup 6 1;", "2");
         Check.due("the one that it can come IN", next.way(0, 0), 3);
+        WinkBank two = in("house 0;felt 30;wink 0 1 1;wink 0 1 0;cup 7 5;", "2");
+        Check.due("three", two.way(0, 0), 3);
+        Check.due("none, asked behind it", two.way(1, 0), -1);
+        Check.due("none, asked behind it, first", two.way(1, 1), -1);
+        WinkBank few = in("house 0;felt 5;wink 0 1 1;cup 2 5;", "2");
+        Check.due("not from a CELL that it can't come to", few.way(0, 0), -1);
         WinkBank rims = in("house 0;felt 10;wink 0 1 2;cup 9 5;", "5");
         Check.due("not beyond the rims", rims.way(0, 0), -1);
         WinkBank fro = in("house 0;felt 8;wink 0 1 0;cup 1 5;", "least[press,2]*2+1");

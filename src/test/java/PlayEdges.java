@@ -246,6 +246,16 @@ final class PlayEdges {
         Check.play(b, "flick 3 1;");
         Check.due("off again", b.wink(2, 5), 0);
         Check.due("on a bare CELL", b.wink(3, 4), 0);
+        WinkBank low = Check.in("house 9;felt 9;wink 0 1 1;wink 0 1 4;wink 0 1 4;wink 0 1 7;");
+        Check.law(low, "3");
+        Check.play(low, "flick 0 1;");
+        Check.due("a lesser number on greater ones", low.wink(0, 4), 2);
+        Check.due("one on that below", low.wink(2, 5), 1);
+        Check.play(low, "flick 0 1;");
+        Check.due("off and on another one", low.wink(0, 4), 1);
+        Check.due("the two lie as they lay", low.wink(1, 4) * 10 + low.wink(1, 5), 1);
+        Check.due("the two lie as they lay", low.wink(2, 4) * 10 + low.wink(2, 5), 10);
+        Check.due("the one below", low.wink(3, 4) * 10 + low.wink(3, 5), 1);
     }
 
     static void damp() {
