@@ -141,6 +141,10 @@ final class AskEdges {
         WinkBank bare = in("house 0;felt 20;wink 0 1 12;", "press");
         Check.due("without a CUP", bare.gain(0, 0), 0);
         Check.due("the first of all", bare.gain(0, 1), 10);
+        WinkBank far = in("house 0;felt 30;wink 0 1 12;cup 22 9;cup 2 9;", "press");
+        Check.due("not by a press of 10", far.gain(0, 0), 0);
+        Check.law(far, "10-press");
+        Check.due("not by a press of 0", far.gain(0, 0), 0);
         WinkBank still = in("house 0;felt 20;wink 0 1 12;cup 12 9;", "0");
         Check.due("not by 0", still.gain(0, 0), 0);
 
@@ -203,6 +207,16 @@ final class AskEdges {
         // flies 3 or 5: 0, 3, 6, 1
         Check.due("to and fro", fro.way(0, 0), 3);
         Check.due("to and fro, first", fro.way(0, 1), 10);
+        // from 29 by 9, else by 2
+        WinkBank last = in("house 0;felt 30;wink 0 1 27;cup 20 5;", "2+cell/29*7");
+        Check.due("over the last CELL", last.way(0, 0), 2);
+        Check.due("once more", last.way(0, 1), 10);
+        // from 0 by 9, else by 2
+        WinkBank first = in("house 0;felt 30;wink 0 1 2;cup 9 5;", "2+7/(7*cell+1)");
+        Check.due("over the first CELL", first.way(0, 0), 2);
+        Check.due("over the first CELL, first", first.way(0, 1), 11);
+        WinkBank far = in("house 0;felt 30;wink 0 1 12;cup 22 9;", "press/10*10");
+        Check.due("not by a press of 10", far.way(0, 0), -1);
         WinkBank own = in("house 0;felt 9;wink 0 1 4;cup 4 5;", "press");
         Check.due("out of its CUP's CELL and back", own.way(0, 0), 2);
         Check.law(own, "0");

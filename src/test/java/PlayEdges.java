@@ -42,10 +42,10 @@ final class PlayEdges {
         Check.due("none REFUSED", b.told(9), 0);
         Check.play(b, "damp 7;day;flick 2 1;");
         Check.room(b, "house 1;felt 9;wink 0 1 4;wink 0 1 8;wink 0 1 4;cup 4 5;cup 8 5;");
-        Check.room(b, "house 1;wink 0 1 0;wink 0 1 0;wink 0 1 11;");
+        Check.room(b, "house 1;felt 30;wink 0 1 0;wink 0 1 0;wink 0 1 29;");
         Check.due("the first CELL", b.cell(0, 0), 2);
-        Check.due("the last CELL", b.cell(11, 0), 1);
-        Check.room(b, "house 1;wink 0 1 0;wink 0 1 11;");
+        Check.due("the last CELL", b.cell(29, 0), 1);
+        Check.room(b, "house 1;felt 30;wink 0 1 0;wink 0 1 29;");
         Check.due("nothing of the ROOM before at the first CELL", b.wink(0, 4) + b.wink(0, 5), 0);
         Check.due("nor at the last", b.wink(1, 4) + b.wink(1, 5), 0);
         Check.room(b, "house 1;felt 9;wink 0 1 4;wink 0 1 8;wink 0 1 4;cup 4 5;cup 8 5;");
@@ -57,6 +57,8 @@ final class PlayEdges {
         WinkBank b = Check.in("house 9;felt 9;wink 0 1 4;wink 0 1 4;wink 0 1 4;wink 0 1 7;wink 0 1 2;cup 6 5;");
         Check.law(b, "press");
         Check.due("two of three, not the top, not one alone", b.told(5), 3);
+        WinkBank rims = Check.in("house 9;felt 30;wink 0 1 0;wink 0 1 29;wink 0 1 0;wink 0 1 29;");
+        Check.due("at both rims", rims.told(5), 3);
         Check.play(b, "flick 4 2;");
         Check.due("now the top, too", b.told(5), 7);
         Check.play(b, "flick 4 2;flick 3 2;");
@@ -375,6 +377,10 @@ final class PlayEdges {
         WinkBank other = Check.in("house 1;house 0;house 0;wink 1 1 5;wink 0 1 3;wink 1 1 3;wink 2 1 5;");
         Check.play(other, "day;");
         Check.due("it stays there", other.house(1, 0), 1);
+        WinkBank many = Check.in("house 9;house 0;felt 30;" + "wink 0 1 29;".repeat(9) + "wink 1 1 29;");
+        Check.play(many, "day;");
+        Check.due("a coin for each of nine", many.house(0, 0), 0);
+        Check.due("nine on top of all", many.house(1, 0), 9);
         WinkBank own = Check.in("house 1;wink 0 1 3;wink 0 1 3;");
         Check.play(own, "day;");
         Check.due("to itself", own.house(0, 0), 1);

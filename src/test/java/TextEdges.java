@@ -133,6 +133,10 @@ final class TextEdges {
             Check.due("wink " + w, b.wink(w, 2), w);
         }
         Check.noSuch("wink 10", b, () -> b.wink(10, 0));
+        WinkBank last = Edge.fine("room", "house 1;house 1;" + "wink 0 1 0;".repeat(9) + "wink 1 9 11;", 10);
+        Check.due("HOUSE of the tenth", last.wink(9, 0), 1);
+        Check.due("SIZE of the tenth", last.wink(9, 1), 9);
+        Check.due("CELL of the tenth", last.wink(9, 2), 11);
         Edge.faulty("room", ten + "wink 0 1 9;", 3, 118);
         Edge.faulty("room", ten + " wink", 3, 119);
 
@@ -467,11 +471,12 @@ final class TextEdges {
         Edge.flies("  least  [  9  ,  (  press  *  2  +  8  /  4  -  3  )  ]  ", 3);
         Edge.fine("play", "  again  2  [  flick  2  1  ;  shake  ;  ]  ;  ", 4);
         Edge.fine("book", "  1  2  ;  3  4  ;  ", 2);
-        for (char other : new char[] {0, 9, 10, 13, 31, 33, 127, 128, 160, 255}) {
-            Edge.faulty("room", other + "nap 1;", 1, 0);
-            Edge.faulty("room", "nap" + other + "1;", 1, 3);
-            Edge.faulty("room", "nap 1" + other + ";", 1, 5);
-            Edge.faulty("room", "nap 1;" + other, 1, 6);
+        // no blanks, and those beside the digits and the small letters neither
+        for (char other : new char[] {0, 9, 10, 13, 31, 33, '/', ':', '@', 'A', 'Z', '[', '`', '{', 127, 128, 160, 255}) {
+            Edge.faulty("room", other + "felt 9;", 1, 0);
+            Edge.faulty("room", "felt" + other + "9;", 1, 4);
+            Edge.faulty("room", "felt 9" + other + ";", 1, 6);
+            Edge.faulty("room", "felt 9;" + other, 1, 7);
         }
     }
 
@@ -665,6 +670,9 @@ final class TextEdges {
         Check.due("how many", Check.room(used, text), 3);
         Edge.same("as in a new object", Edge.seen(used), Edge.seen(Check.in(text)));
         Check.due("no BOOK", used.told(8), 0);
+        Check.due("no line by which one could be wrong", used.fits(0, 0), 100);
+        // ten of NAP and DAMP together 9 at the worst; by 7 and less more fly 0
+        Check.due("no line in which a press could be", used.look(0, 0), 8);
         Check.due("no LAW", used.flies(0, 4), 6);
         Check.due("no IMAGE", used.restore(), -1);
         Check.due("nothing to undo", used.undo(), -1);
