@@ -21,6 +21,7 @@ public final class FaceTest {
 
     public static void main(String[] args) throws Exception {
         face();
+        asTheDocumentSays();
         classes();
         source();
         Check.done();
@@ -71,6 +72,34 @@ public final class FaceTest {
         same("class", Modifier.toString(WinkBank.class.getModifiers()), "public final");
     }
 
+    private static String fileAt(String variable, String otherwise) throws Exception {
+        String path = System.getenv(variable);
+        return Files.readString(Path.of(path == null ? otherwise : path));
+    }
+
+    private static String sourceText() throws Exception {
+        return fileAt("WINKBANK_SOURCE", "src/main/java/WinkBank.java");
+    }
+
+    /** Each line of the document's face stands in the source to the letter, but for its end and where lines break. */
+    private static void asTheDocumentSays() throws Exception {
+        String doc = fileAt("WINKBANK_DOC", "../shared/DOC.md");
+        int from = doc.indexOf("```java", doc.indexOf("## The public face"));
+        String[] lines = doc.substring(from, doc.indexOf("\n```", from)).split("\n");
+        String source = sourceText().replaceAll("\\s+", " ");
+        int members = 0;
+        for (String line : lines) {
+            String plain = line.trim().replaceAll("\\s+", " ");
+            if (plain.startsWith("public ") && plain.endsWith(";")) {
+                members++;
+                String due = plain.contains("(") ? plain.replace(";", " {") : plain;
+                same("stands in the source: " + plain, source.contains(due), true);
+            }
+        }
+        same("the document's constant, constructor and methods", members, 38);
+        same("open members of the source", source.split("public (?!final class)", -1).length - 1, members);
+    }
+
     private static void classes() {
         Class<?>[] inside = WinkBank.class.getDeclaredClasses();
         same("some twelve classes", inside.length < 12, true);
@@ -92,8 +121,7 @@ public final class FaceTest {
     }
 
     private static void source() throws Exception {
-        String path = System.getenv("WINKBANK_SOURCE");
-        String text = Files.readString(Path.of(path == null ? "src/main/java/WinkBank.java" : path));
+        String text = sourceText();
         String code = text.replaceAll("(?s)/\\*.*?\\*/", "").replaceAll("//[^\n]*", "");
         for (String banned : new String[] {"->", "::", "Exact", "\\btry\\b", "\\bcatch\\b", "\\bfinally\\b", "\\bassert\\b",
             "static \\{", "\\bsynchronized\\b", "\\bequals\\b", "\\bhashCode\\b", "\\btoString\\b", "System\\.(?!arraycopy)",
